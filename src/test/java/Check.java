@@ -1,0 +1,51 @@
+/** Counts the answers that are not the ones that are due, prints them, and ends the test with 1 if there was one. */
+final class Check {
+    interface Call {
+        Object answer();
+    }
+
+    private static int wrong = 0;
+    private static int looked = 0;
+
+    private Check() {
+    }
+
+    static void due(String what, Object want, Call call) {
+        Object got;
+        try {
+            got = call.answer();
+        } catch (RuntimeException e) {
+            got = e.getClass().getSimpleName();
+        }
+        same(what, want, got);
+    }
+
+    static void same(String what, Object want, Object got) {
+        looked++;
+        if (!want.equals(got)) {
+            wrong++;
+            System.out.println(what + " answered " + got + ", due is " + want);
+        }
+    }
+
+    /** The call throws just this exception, and nothing that can be asked of the object has changed. */
+    static void refuses(String what, CausalBroadcast x, Class<? extends RuntimeException> exception, Call call) {
+        String before = Picture.of(x);
+        due(what, exception.getSimpleName(), call);
+        same(what + ", the state afterwards,", before, Picture.of(x));
+    }
+
+    /** The call answers a question and changes nothing. */
+    static void asks(String what, CausalBroadcast x, Object want, Call call) {
+        String before = Picture.of(x);
+        due(what, want, call);
+        same(what + ", the state afterwards,", before, Picture.of(x));
+    }
+
+    static void end() {
+        System.out.println(looked + " answers, " + wrong + " of them wrong");
+        if (wrong != 0 || looked == 0) {
+            System.exit(1);
+        }
+    }
+}
