@@ -514,7 +514,7 @@ public final class CausalBroadcast {
 
         private final int self;
         private final int[] log = new int[MAX_MESSAGES];
-        /** For each message its index in the log, or else WAITING or AWAY. */
+        /** For each message its index in the log, or else WAITING or AWAY, which count in its own view alone. */
         private final int[] places = new int[MAX_MESSAGES];
         /** The numbers for q and s at q * PROCESSES + s; the own line is the clock. */
         private final int[] table = new int[PROCESSES * PROCESSES];
@@ -627,14 +627,6 @@ public final class CausalBroadcast {
             return swapped;
         }
 
-        void emptyBuffer() {
-            for (int message = 0; message < MAX_MESSAGES; message++) {
-                if (places[message] == WAITING) {
-                    places[message] = AWAY;
-                }
-            }
-        }
-
         void copyLogAndState(Replica other) {
             copyRow(other.log, log);
             copyRow(other.places, places);
@@ -651,6 +643,7 @@ public final class CausalBroadcast {
     /** The views, the messages and the processes: all that a snapshot saves. Its callers ask the can-methods first. */
     private static final class Group {
         private final int[] memberSets = new int[LAST_VIEW + 1];
+        /** The forced deliveries of each view; nothing ever forces one in view 0. */
         private final int[] forced = new int[LAST_VIEW + 1];
         private final Messages messages = new Messages();
         private final Replica[] replicas = new Replica[PROCESSES];
@@ -674,7 +667,6 @@ public final class CausalBroadcast {
             }
             view = 0;
             memberSets[0] = members;
-            forced[0] = 0;
             proposed = members;
             viewStart = 0;
             repeats = 0;
@@ -778,12 +770,11 @@ public final class CausalBroadcast {
                     deliveries += force(process, survivors);
                 }
             }
-            endView();
             welcome(proposed & ~members(), replicas[lowestOf(survivors)]);
             view++;
             memberSets[view] = proposed;
             forced[view] = deliveries;
-            viewStart = messages.count;
+            beginView();
             return deliveries;
         }
 
@@ -808,9 +799,10 @@ public final class CausalBroadcast {
             return false;
         }
 
-        private void endView() {
+        /** The buffers are empty with that, since only messages of the current view are looked for in them. */
+        private void beginView() {
+            viewStart = messages.count;
             for (int process = 0; process < PROCESSES; process++) {
-                replicas[process].emptyBuffer();
                 replicas[process].forgetTable();
             }
         }

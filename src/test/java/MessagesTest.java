@@ -273,7 +273,9 @@ public final class MessagesTest {
         }
         x.reset(3);
         Check.due("20 longestChain(0) after reset", 0, () -> x.longestChain(0));
-        for (int i = 0; i < 5; i++) {
+        x.broadcast(0, 0);
+        Check.due("20 longestChain(0), one message", 1, () -> x.longestChain(0));
+        for (int i = 1; i < 5; i++) {
             x.broadcast(0, i);
         }
         x.broadcast(1, 1);

@@ -2,10 +2,13 @@ import java.lang.reflect.InvocationTargetException;
 import java.lang.reflect.Method;
 import java.util.HashMap;
 import java.util.Map;
+import java.util.Set;
 
 /** All that can be asked of a CausalBroadcast, or of a Model, which has the same methods, as one text. */
 final class Picture {
     private static final Map<String, Method> METHODS = new HashMap<>();
+    private static final Set<String> DOCUMENTED = Set.of("IndexOutOfBoundsException", "IllegalStateException",
+            "IllegalArgumentException", "NoSuchElementException", "ArithmeticException");
     private static final int PROCESSES = 6;
 
     private final Object of;
@@ -21,13 +24,17 @@ final class Picture {
         return picture.text.toString();
     }
 
-    /** Calls a method by its name; an exception is answered by the name of its class. */
+    /** Calls a method by its name; an exception is answered by the name of its class, if the document has that. */
     static Object ask(Object x, String name, Object... arguments) {
         Method method = METHODS.computeIfAbsent(x.getClass().getName() + " " + name, key -> find(x, name));
         try {
             return method.invoke(x, arguments);
         } catch (InvocationTargetException e) {
-            return e.getCause().getClass().getSimpleName();
+            String exception = e.getCause().getClass().getSimpleName();
+            if (!DOCUMENTED.contains(exception)) {
+                throw new IllegalStateException(name + " met what only the machine throws", e.getCause());
+            }
+            return exception;
         } catch (IllegalAccessException e) {
             throw new IllegalStateException(e);
         }

@@ -180,10 +180,21 @@ public final class ProcessesTest {
         Check.asks("31 disagreements(0, 2)", x, 3, () -> x.disagreements(0, 2));
         x.install();
         Check.asks("31 disagreements(0, 2), a new view", x, 3, () -> x.disagreements(0, 2));
+        disagreementsPassOverBuffers();
         for (int wrong : NO_PROCESS) {
             Check.refuses("31 disagreements(" + wrong + ", 0)", x, INDEX, () -> x.disagreements(wrong, 0));
             Check.refuses("31 disagreements(0, " + wrong + ")", x, INDEX, () -> x.disagreements(0, wrong));
         }
+    }
+
+    private static void disagreementsPassOverBuffers() {
+        CausalBroadcast x = group();
+        x.arrive(1, 4);
+        x.broadcast(1, 60);
+        x.arrive(2, 5);
+        // Message 5 stands behind 4 in the log of process 1, and waits in the buffer of process 2.
+        Check.asks("31 disagreements(1, 2)", x, 0, () -> x.disagreements(1, 2));
+        Check.asks("32 overlap(1, 2)", x, 1.0 / 6.0, () -> x.overlap(1, 2));
     }
 
     private static void overlap() {

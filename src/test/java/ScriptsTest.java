@@ -5,6 +5,7 @@ public final class ScriptsTest {
     public static void main(String[] args) {
         append();
         events();
+        eventsDoNothingElse();
         numbers();
         failingEvents();
         failureUndoesAll();
@@ -53,10 +54,30 @@ public final class ScriptsTest {
         write(x, "g3,0");
         Check.due("39 run()", 1, () -> x.run());
         Check.due("39 known(0, 3, 3)", 1, () -> x.known(0, 3, 3));
+        write(x, "b0=1;a3,3;g3,0;j5");
+        Check.due("39 run()", 4, () -> x.run());
+        Check.due("39 known(0, 3, 0), by gossip", 1, () -> x.known(0, 3, 0));
+        Check.due("39 proposed()", 41, () -> x.proposed());
+        write(x, "b0=1;a3,4;l5");
+        Check.due("39 run()", 3, () -> x.run());
+        Check.due("39 known(0, 3, 0), no gossip", 1, () -> x.known(0, 3, 0));
+        Check.due("39 view()", 1, () -> x.view());
         write(x, "a0,2;a0,02;a0,002");
         Check.due("39 run()", 3, () -> x.run());
         Check.due("39 duplicates()", 3, () -> x.duplicates());
         Check.due("38 append to the emptied input", 1, () -> x.append('i'));
+    }
+
+    private static void eventsDoNothingElse() {
+        CausalBroadcast x = new CausalBroadcast();
+        write(x, "b0=5;a1,0;l0;g0,1");
+        Check.due("39 run()", 4, () -> x.run());
+        Check.due("39 known(0, 1, 0), no gossip", 0, () -> x.known(0, 1, 0));
+        Check.due("39 proposed(), no join", 2, () -> x.proposed());
+        write(x, "j0;j3");
+        Check.due("39 run()", 2, () -> x.run());
+        Check.due("39 proposed(), no leave", 11, () -> x.proposed());
+        Check.due("39 view(), no install", 0, () -> x.view());
     }
 
     private static void numbers() {

@@ -15,6 +15,7 @@ public final class ViewsTest {
         installLosesWhatNoSurvivorHas();
         installEmptiesBuffers();
         installTransfersState();
+        theLastProcessTransfersState();
         rejoiningReplacesTheLog();
         installHasAnEnd();
         Check.end();
@@ -54,9 +55,14 @@ public final class ViewsTest {
         x.broadcast(4, 1);
         x.broadcast(4, 2);
         x.arrive(0, 3);
+        x.broadcast(0, 3);
+        x.arrive(1, 4);
+        x.broadcast(1, 4);
+        x.arrive(0, 5);
+        x.gossip(0, 1);
         x.requestLeave(1);
         Check.refuses("2 reset(64)", x, ARGUMENT, () -> x.reset(64));
-        Check.due("2 reset(3)", 4, () -> x.reset(3));
+        Check.due("2 reset(3)", 6, () -> x.reset(3));
         Check.same("2 after reset(3) all", fresh, Picture.of(x));
         Check.due("2 reset(3)", 0, () -> x.reset(3));
         Check.due("2 reset(63)", 0, () -> x.reset(63));
@@ -241,6 +247,19 @@ public final class ViewsTest {
         Check.due("9 isStable(5, 0)", true, () -> x.isStable(5, 0));
         x.broadcast(2, 1);
         Check.due("9 logLength(0), a copy", 2, () -> x.logLength(0));
+    }
+
+    private static void theLastProcessTransfersState() {
+        CausalBroadcast x = new CausalBroadcast();
+        x.reset(48);
+        x.broadcast(4, 1);
+        x.broadcast(5, 2);
+        x.requestLeave(4);
+        x.requestJoin(0);
+        Check.due("9 install()", 0, () -> x.install());
+        Check.due("9 logLength(0)", 1, () -> x.logLength(0));
+        Check.due("9 logged(0, 0)", 1, () -> x.logged(0, 0));
+        Check.due("9 state(0)", 2, () -> x.state(0));
     }
 
     private static void rejoiningReplacesTheLog() {
