@@ -42,6 +42,10 @@ final class Check {
         same(what + ", the state afterwards,", before, Picture.of(x));
     }
 
+    static int looked() {
+        return looked;
+    }
+
     static void end() {
         System.out.println(looked + " answers, " + wrong + " of them wrong");
         if (wrong != 0 || looked == 0) {

@@ -24,6 +24,17 @@ final class Picture {
         return picture.text.toString();
     }
 
+    /** The picture, then what the input does and what the snapshot brings back, which uses both up. */
+    static String whole(Object x) {
+        Picture picture = new Picture(x);
+        picture.group();
+        picture.put("run");
+        picture.group();
+        picture.put("restoreSnapshot");
+        picture.group();
+        return picture.text.toString();
+    }
+
     /** Calls a method by its name; an exception is answered by the name of its class, if the document has that. */
     static Object ask(Object x, String name, Object... arguments) {
         Method method = METHODS.computeIfAbsent(x.getClass().getName() + " " + name, key -> find(x, name));
