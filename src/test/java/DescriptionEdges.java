@@ -12,8 +12,8 @@ final class DescriptionEdges {
                 DescriptionEdges::the512thCallStillAnswers);
         Edge.of(0, "There are 6 processes, numbered from 0.", DescriptionEdges::processesGoFrom0To5);
         Edge.of(0, "A view is a nonempty set of processes", DescriptionEdges::viewsAreNeverEmpty);
-        Edge.of(0, "Views are numbered from 0 in the order in which they are installed; the last one is the current view",
-                DescriptionEdges::theLastViewIsTheCurrentOne);
+        Edge.of(0, "Views are numbered from 0 in the order in which they are installed; the last one is the current"
+                + " view", DescriptionEdges::theLastViewIsTheCurrentOne);
         Edge.of(0, "a process is called a member if it is a member of the current view",
                 DescriptionEdges::onlyTheCurrentViewMakesMembers);
         Edge.of(0, "which equals the set of the members whenever a view has been installed",

@@ -255,6 +255,13 @@ final class KnowledgeEdges {
         // Of the second message the others have told nothing.
         Edge.due(0, () -> x.firstUnaware(1));
         Edge.due(2, () -> x.firstUnaware(0));
+        // Who is about to leave counts still, and who is about to join does not count yet.
+        CausalBroadcast y = Scene.members(6);
+        y.broadcast(1, 1);
+        y.arrive(2, 0);
+        y.requestLeave(1);
+        y.requestJoin(0);
+        Edge.due(1, () -> y.firstUnaware(0));
     }
 
     private static void eachProcessCanBeUnaware() {

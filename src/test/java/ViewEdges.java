@@ -60,6 +60,16 @@ final class ViewEdges {
         CausalBroadcast busy = Scene.busy();
         busy.reset(3);
         Edge.same(Picture.of(fresh), Picture.of(busy));
+        // What happens afterwards is what happens in a new group.
+        for (CausalBroadcast each : new CausalBroadcast[] {fresh, busy}) {
+            Edge.due(0, () -> each.broadcast(0, 5));
+            Edge.due(1, () -> each.broadcast(0, 6));
+            Edge.due(0, () -> each.arrive(1, 1));
+            Edge.due(2, () -> each.arriveAll(1));
+            Edge.due(2, () -> each.unstable(0));
+            Edge.due(1, () -> each.requestLeave(0));
+        }
+        Edge.same(Picture.of(fresh), Picture.of(busy));
         CausalBroadcast x = Scene.lastView();
         x.reset(6);
         Edge.due(0, () -> x.view());
