@@ -24,8 +24,17 @@ final class Check {
         looked++;
         if (!want.equals(got)) {
             wrong++;
-            System.out.println(what + " answered " + got + ", due is " + want);
+            tell(what, String.valueOf(want).split("\n"), String.valueOf(got).split("\n"));
         }
+    }
+
+    /** Of two long texts only the first lines that differ tell something. */
+    private static void tell(String what, String[] want, String[] got) {
+        int line = 0;
+        while (line < want.length - 1 && line < got.length - 1 && want[line].equals(got[line])) {
+            line++;
+        }
+        System.out.println(what + " answered " + got[line] + ", due is " + want[line]);
     }
 
     /** The call throws just this exception, and nothing that can be asked of the object has changed. */

@@ -26,8 +26,14 @@ final class Edge {
         cases++;
         DOCUMENT.quote(promise, sentence);
         int before = Check.looked();
-        calls.run();
-        Check.same(name + ", the case has answers,", true, Check.looked() > before);
+        String end = "its end";
+        try {
+            calls.run();
+        } catch (RuntimeException e) {
+            end = e + " at " + e.getStackTrace()[0];
+        }
+        Check.same(name + ", the case,", "its end", end);
+        Check.same(name + ", the case has answers,", true, Check.looked() > before + 1);
     }
 
     static void due(Object want, Check.Call call) {
