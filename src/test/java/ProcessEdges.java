@@ -405,6 +405,19 @@ final class ProcessEdges {
         Edge.due(2, () -> x.disagreements(2, 1));
         Edge.asked(1, Scene::busy, y -> y.disagreements(0, 1));
         Edge.asked(1, Scene::busy, y -> y.disagreements(3, 1));
+        Edge.asked(0, ProcessEdges::waiting, y -> y.disagreements(1, 2));
+        Edge.asked(0, ProcessEdges::waiting, y -> y.disagreements(2, 1));
+    }
+
+    /** The log of process 1 is 0 1 2, that of process 2 is 0 alone, with 2 in the buffer. */
+    private static CausalBroadcast waiting() {
+        CausalBroadcast x = Scene.members(7);
+        x.broadcast(2, 1);
+        x.broadcast(0, 2);
+        x.broadcast(0, 3);
+        x.arriveAll(1);
+        x.arrive(2, 2);
+        return x;
     }
 
     private static void from0To5625Pairs() {
@@ -447,6 +460,7 @@ final class ProcessEdges {
         Edge.asked(2.0 / 3.0, Scene::busy, y -> y.overlap(1, 0));
         Edge.asked(0.0, Scene::busy, y -> y.overlap(0, 5));
         Edge.asked(0.75, Scene::busy, y -> y.overlap(3, 1));
+        Edge.asked(1.0 / 3.0, ProcessEdges::waiting, y -> y.overlap(1, 2));
     }
 
     private static void sharesAreQuotients() {
