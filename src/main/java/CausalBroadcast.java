@@ -302,13 +302,14 @@ public final class CausalBroadcast {
             errorAt = script.at;
             throw new IllegalArgumentException("the input is not a script");
         }
-        prepareTrial();
+        Group draft = copyToTrial();
         for (int event = 0; event < script.events; event++) {
-            if (!trial.perform(script.kinds[event], script.firsts[event], script.seconds[event])) {
+            if (!draft.perform(script.kinds[event], script.firsts[event], script.seconds[event])) {
                 throw new IllegalStateException("one of the events would throw an exception");
             }
         }
-        swapWithTrial();
+        trial = group;
+        group = draft;
         return script.events;
     }
 
@@ -373,17 +374,12 @@ public final class CausalBroadcast {
         }
     }
 
-    private void prepareTrial() {
+    private Group copyToTrial() {
         if (trial == null) {
             trial = new Group();
         }
         trial.copyFrom(group);
-    }
-
-    private void swapWithTrial() {
-        Group before = group;
-        group = trial;
-        trial = before;
+        return trial;
     }
 
     private static boolean isProcess(int process) {
